@@ -1,0 +1,3 @@
+/** Stands for the oracle of the next commit. */
+final class Oracle {
+}
