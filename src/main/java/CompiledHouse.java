@@ -9,6 +9,8 @@ public final class CompiledHouse {
 
     private static final int MOST_BYTES = 4000;
     private static final int MOST_TOKENS = MOST_BYTES + 1;
+    // More different NAMEs than a tape can hold.
+    private static final int MOST_NAMES = 2048;
     private static final int MOST_OPEN = 40;
     private static final int MOST_FUNCTIONS = 40;
     private static final int MOST_FORMALS = 4;
@@ -351,7 +353,6 @@ public final class CompiledHouse {
     private static final class Tokens {
         private static final int LONGEST_NAME = 16;
         private static final int LONGEST_NUMBER = 10;
-        private static final int MOST_NAMES = 2048;
         private static final int HEADS = 1024;
         private static final long GREATEST = 4294967295L;
         private static final int WORD_WIDTH = 8;
@@ -715,7 +716,8 @@ public final class CompiledHouse {
 
     /** The words of the machine. Nothing comes while it is off. */
     private static final class Code {
-        private static final int MOST = 10000;
+        // No text makes more than two words of each of its bytes.
+        private static final int MOST = 9000;
         private final int[] words = new int[MOST];
         int count;
         boolean on;
@@ -864,7 +866,6 @@ public final class CompiledHouse {
         static final int WRONG_MAIN = 9;
         private static final int[] FAULT_KINDS = {4, 5, 7, 8, 6, 8, 9, 10, 11, 12};
         private static final int MOST_SYMBOLS = 800;
-        private static final int MOST_NAMES = 2048;
 
         private final Program program;
         private final int[] ids = new int[MOST_SYMBOLS];
@@ -1871,6 +1872,7 @@ public final class CompiledHouse {
     private static final class Ports {
         private static final int MOST_WAITING = 500;
         private static final int MOST_KEPT = 2000;
+        private static final int MOST_COUNTED = 2147483647;
         private final int[] input = new int[MOST_WAITING];
         private int first;
         int waiting;
@@ -1910,7 +1912,7 @@ public final class CompiledHouse {
             if (shownCount < MOST_KEPT) {
                 output[shownCount] = number;
             }
-            if (shownCount < Integer.MAX_VALUE) {
+            if (shownCount < MOST_COUNTED) {
                 shownCount++;
             }
         }
@@ -1970,9 +1972,7 @@ public final class CompiledHouse {
             forget();
             state = MAY_GO_ON;
             limit = newLimit;
-            for (int i = 0; i < MOST_GLOBAL_WORDS; i++) {
-                memory[i] = program.firstWord(i);
-            }
+            System.arraycopy(program.firstWords, 0, memory, 0, MOST_GLOBAL_WORDS);
         }
 
         int depth() {

@@ -59,6 +59,11 @@ final class Due {
         be("read of " + marked, read(new CompiledHouse(), text), place * 16L + kind);
     }
 
+    /** A text with a fault of this kind at this place; kind 0 is none. */
+    static void fault(String text, int kind, int place) {
+        be("read of " + text, read(new CompiledHouse(), text), place * 16L + kind);
+    }
+
     static void fine(String text) {
         be("read of " + text, read(new CompiledHouse(), text), 0);
     }

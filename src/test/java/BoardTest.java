@@ -1,0 +1,514 @@
+import java.math.BigInteger;
+import java.util.Random;
+
+/** Promises 12 to 15: put, set, go, board. */
+public final class BoardTest {
+    public static void main(String[] args) {
+        put();
+        set();
+        go();
+        board();
+        stops();
+        nothingToDoWithTexts();
+        jumps();
+        memory();
+        for (int seed = 0; seed < 3000 && Due.wrong() == 0; seed++) {
+            byChance(new Random(seed), "seed " + seed + ": ");
+        }
+        Due.done();
+    }
+
+    private static int i(int op, int d, int f, int a, int number) {
+        return number << 20 | a << 15 | f << 12 | d << 7 | op;
+    }
+
+    private static int r(int g, int d, int f, int a, int b) {
+        return g << 25 | b << 20 | a << 15 | f << 12 | d << 7 | 0x33;
+    }
+
+    private static int s(int f, int a, int b, int offset) {
+        return offset >> 5 << 25 | b << 20 | a << 15 | f << 12 | (offset & 31) << 7 | 0x23;
+    }
+
+    private static int b(int f, int a, int b, int offset) {
+        return (offset >> 12 & 1) << 31 | (offset >> 5 & 63) << 25 | b << 20 | a << 15 | f << 12 | (offset >> 1 & 15) << 8 | (offset >> 11 & 1) << 7 | 0x63;
+    }
+
+    private static int j(int d, int offset) {
+        return (offset >> 20 & 1) << 31 | (offset >> 1 & 1023) << 21 | (offset >> 11 & 1) << 20 | (offset >> 12 & 255) << 12 | d << 7 | 0x6f;
+    }
+
+    private static void put() {
+        CompiledHouse x = new CompiledHouse();
+        Due.be("put", x.put(0, 11), true);
+        Due.be("put", x.put(16380, -12), true);
+        Due.be("put", x.put(400, 13), true);
+        for (int address : new int[] {-4, -1, 1, 2, 3, 16381, 16384, 16388, Integer.MIN_VALUE, Integer.MAX_VALUE}) {
+            Due.be("put at " + address, x.put(address, 5), false);
+        }
+        Due.be("first", x.board(100), 11);
+        Due.be("last", x.board(4195), -12);
+        Due.be("other", x.board(200), 13);
+        Due.be("next", x.board(101), 0);
+    }
+
+    private static void set() {
+        CompiledHouse x = new CompiledHouse();
+        for (int n = 1; n <= 32; n++) {
+            Due.be("set", x.set(n, n * 1000), true);
+        }
+        for (int n : new int[] {0, -1, 33, 100, Integer.MIN_VALUE, Integer.MAX_VALUE}) {
+            Due.be("set " + n, x.set(n, 7), false);
+        }
+        Due.be("0 is 0", x.board(0), 0);
+        for (int n = 1; n <= 32; n++) {
+            Due.be("register", x.board(n), n * 1000);
+        }
+        Due.be("words", x.board(33), 0);
+    }
+
+    private static void go() {
+        CompiledHouse x = new CompiledHouse();
+        for (int n : new int[] {0, -1, 1001, Integer.MIN_VALUE, Integer.MAX_VALUE}) {
+            Due.be("go " + n, x.go(n), -1);
+        }
+        // A loop of two words.
+        x.put(0, i(0x13, 1, 0, 1, 1));
+        x.put(4, j(0, -4));
+        Due.be("go", x.go(1000), 0);
+        Due.be("counted", x.board(1), 500);
+        Due.be("words", x.board(33), 1000);
+        Due.be("PC", x.board(32), 0);
+        Due.be("go", x.go(1), 0);
+        Due.be("PC", x.board(32), 4);
+        Due.be("counted", x.board(1), 501);
+        x.put(4, 0x73);
+        Due.be("ECALL at the last one", x.go(1), 6);
+        Due.be("PC is behind it", x.board(32), 8);
+        Due.be("words", x.board(33), 1002);
+        x.put(8, 0x100073);
+        Due.be("EBREAK", x.go(1000), 7);
+        Due.be("PC is behind it", x.board(32), 12);
+        Due.be("words", x.board(33), 1003);
+        Due.be("no word", x.go(1), 2);
+        Due.be("PC stays", x.board(32), 12);
+        Due.be("words", x.board(33), 1003);
+    }
+
+    private static void board() {
+        CompiledHouse x = new CompiledHouse();
+        for (int n : new int[] {-1, 34, 35, 99, 4196, 5000, Integer.MIN_VALUE, Integer.MAX_VALUE}) {
+            Due.be("board " + n, x.board(n), -1);
+        }
+        for (int n = 0; n < 34; n++) {
+            Due.be("board " + n, x.board(n), 0);
+        }
+        for (int n = 100; n < 4196; n++) {
+            Due.be("board " + n, x.board(n), 0);
+        }
+    }
+
+    private static void stop(int word, int pc, int why) {
+        CompiledHouse x = new CompiledHouse();
+        x.put(pc & ~3, word);
+        x.set(32, pc);
+        x.set(1, 1);
+        x.set(2, 2);
+        x.set(3, 16384);
+        x.set(4, -4);
+        x.set(5, 16382);
+        String what = "word " + Integer.toHexString(word) + " at " + pc;
+        Due.be(what, x.go(1), why);
+        Due.be(what + ": PC", x.board(32), why == 0 || why > 5 ? pc + 4 : pc);
+        Due.be(what + ": done", x.board(33), why == 0 || why > 5 ? 1 : 0);
+        if (why != 0) {
+            Due.be(what + ": not done", x.board(31), 0);
+        }
+    }
+
+    private static void stops() {
+        int nop = 0x13;
+        stop(nop, 0, 0);
+        stop(nop, 16380, 0);
+        stop(nop, 1, 1);
+        stop(nop, 2, 1);
+        stop(nop, 16384, 1);
+        stop(nop, -4, 1);
+        stop(nop, Integer.MIN_VALUE, 1);
+        stop(0, 0, 2);
+        stop(-1, 0, 2);
+        stop(0x200073, 0, 2);
+        stop(0x10200073, 0, 2);
+        stop(0x000000f3, 0, 2);
+        stop(0x00001073, 0, 2);
+        stop(0x0f, 0, 0);
+        stop(0xfff0000f, 0, 0);
+        stop(0x0f | 31 << 7, 0, 0);
+        stop(0x100f, 0, 2);
+        for (int f = 0; f < 8; f++) {
+            stop(i(0x67, 31, f, 2, 2), 8, f == 0 ? 0 : 2, 4);
+            stop(b(f, 0, 0, 2), 0, f == 2 || f == 3 ? 2 : f == 0 || f == 5 || f == 7 ? 3 : 0);
+            stop(i(0x03, 31, f, 0, 64), 0, f == 3 || f > 5 ? 2 : 0);
+            stop(i(0x03, 31, f, 1, 0), 0, f == 3 || f > 5 ? 2 : (f & 3) == 0 ? 0 : 4);
+            stop(i(0x03, 31, f, 2, 0), 0, f == 3 || f > 5 ? 2 : f == 2 ? 4 : 0);
+            stop(i(0x03, 31, f, 3, 0), 0, f == 3 || f > 5 ? 2 : 5);
+            stop(i(0x03, 31, f, 3, 1), 0, f == 3 || f > 5 ? 2 : (f & 3) == 0 ? 5 : 4);
+            stop(i(0x03, 31, f, 3, -4), 0, f == 3 || f > 5 ? 2 : 0);
+            stop(i(0x03, 31, f, 4, 0), 0, f == 3 || f > 5 ? 2 : 5);
+            stop(i(0x03, 31, f, 4, 4), 0, f == 3 || f > 5 ? 2 : 0);
+            stop(i(0x03, 0, f, 3, 0), 0, f == 3 || f > 5 ? 2 : 5);
+            stop(s(f, 0, 31, 64), 0, f > 2 ? 2 : 0);
+            stop(s(f, 1, 31, 0), 0, f > 2 ? 2 : f == 0 ? 0 : 4);
+            stop(s(f, 5, 31, 0), 0, f > 2 ? 2 : f == 2 ? 4 : 0);
+            stop(s(f, 3, 31, 0), 0, f > 2 ? 2 : 5);
+            stop(s(f, 3, 31, -4), 0, f > 2 ? 2 : 0);
+            for (int g = 0; g < 128; g++) {
+                boolean number = f != 1 && f != 5 || g == 0 || f == 5 && g == 32;
+                stop(i(0x13, 31, f, 0, g << 5) & ~0xf80, 0, number ? 0 : 2);
+                boolean register = g == 0 || g == 1 || g == 32 && (f == 0 || f == 5);
+                stop(r(g, 0, f, 1, 2), 0, register ? 0 : 2);
+            }
+        }
+        for (int code = 0; code < 128; code++) {
+            boolean some = "37 17 6f 67 63 03 23 13 33 0f 73".contains(String.format("%02x", code));
+            if (!some) {
+                stop(code, 0, 2);
+            }
+        }
+        stop(j(31, 2), 0, 3);
+        stop(j(31, 6), 0, 3);
+        stop(i(0x67, 31, 0, 2, 0), 0, 3);
+        stop(i(0x67, 31, 0, 2, 1), 0, 3);
+    }
+
+    private static void stop(int word, int pc, int why, int next) {
+        CompiledHouse x = new CompiledHouse();
+        x.put(pc, word);
+        x.set(32, pc);
+        x.set(2, 2);
+        Due.be("jump", x.go(1), why);
+        Due.be("PC", x.board(32), why == 0 ? next : pc);
+        Due.be("link", x.board(31), why == 0 ? pc + 4 : 0);
+    }
+
+    private static void nothingToDoWithTexts() {
+        CompiledHouse x = new CompiledHouse();
+        x.put(0, i(0x13, 1, 0, 0, 5));
+        x.set(7, 77);
+        Due.be("read", Due.read(x, "int g=1;int main(){g=2;put(3);}"), 0);
+        x.begin(10);
+        x.run(1);
+        Due.be("memory", x.board(100), i(0x13, 1, 0, 0, 5));
+        Due.be("go", x.go(1), 0);
+        Due.be("register", x.board(1), 5);
+        Due.be("register", x.board(7), 77);
+        Due.be("global", x.global(0), 2);
+        Due.be("output", x.output(0), 3);
+        x.read();
+        Due.be("register", x.board(1), 5);
+        Due.be("words", x.board(33), 1);
+    }
+
+    private static void jumps() {
+        CompiledHouse x = new CompiledHouse();
+        for (int offset : new int[] {4, -4, 2048, -2048, 4092, -4096, 8192, -8192, 4}) {
+            x.set(32, 8192);
+            x.put(8192, j(5, offset));
+            Due.be("go", x.go(1), 0);
+            Due.be("PC", x.board(32), 8192 + offset);
+            Due.be("link", x.board(5), 8196);
+            if (offset >= -4096 && offset < 4096) {
+                x.set(32, 8192);
+                x.put(8192, b(0, 3, 3, offset));
+                Due.be("go", x.go(1), 0);
+                Due.be("PC", x.board(32), 8192 + offset);
+            }
+        }
+        // A jump beyond MEMORY is done; what fails is the next FETCH.
+        x.put(0, j(0, 1048572));
+        x.set(32, 0);
+        Due.be("go", x.go(1), 0);
+        Due.be("PC", x.board(32), 1048572);
+        Due.be("go", x.go(1), 1);
+        x.put(0, j(0, -1048576));
+        x.set(32, 0);
+        Due.be("go", x.go(2), 1);
+        Due.be("PC", x.board(32), -1048576);
+        // d is the register that told the jump.
+        x.put(0, i(0x67, 6, 0, 6, -1));
+        x.set(6, 102);
+        x.set(32, 0);
+        Due.be("go", x.go(1), 0);
+        Due.be("PC", x.board(32), 100);
+        Due.be("link", x.board(6), 4);
+        x.put(16380, 0x13);
+        x.set(32, 16380);
+        Due.be("go", x.go(2), 1);
+        Due.be("PC", x.board(32), 16384);
+    }
+
+    private static void memory() {
+        CompiledHouse x = new CompiledHouse();
+        x.set(1, 0x80);
+        x.set(2, 0x818283f4);
+        x.put(0, s(2, 1, 2, 4));
+        x.put(4, i(0x03, 3, 0, 1, 4));
+        x.put(8, i(0x03, 4, 4, 1, 7));
+        x.put(12, i(0x03, 5, 1, 1, 6));
+        x.put(16, i(0x03, 6, 5, 1, 4));
+        x.put(20, i(0x03, 7, 2, 1, 4));
+        x.put(24, s(0, 1, 2, 9));
+        x.put(28, s(1, 1, 2, 10));
+        x.put(32, i(0x03, 8, 0, 1, 7));
+        Due.be("go", x.go(9), 0);
+        Due.be("word", x.board(100 + 33), 0x818283f4);
+        Due.be("lb", x.board(3), 0xfffffff4);
+        Due.be("lbu", x.board(4), 0x81);
+        Due.be("lh", x.board(5), 0xffff8182);
+        Due.be("lhu", x.board(6), 0x83f4);
+        Due.be("lw", x.board(7), 0x818283f4);
+        Due.be("bytes", x.board(100 + 34), 0x83f4f400);
+        Due.be("lb", x.board(8), 0xffffff81);
+        // The BOARD may change its own words.
+        x.set(32, 64);
+        x.set(9, 0x73);
+        x.put(64, s(2, 0, 9, 68));
+        x.put(68, 0);
+        Due.be("go", x.go(5), 6);
+    }
+
+    /** Words by chance, against a board of bytes that counts with great numbers. */
+    private static void byChance(Random random, String what) {
+        CompiledHouse x = new CompiledHouse();
+        byte[] bytes = new byte[16384];
+        long[] registers = new long[33];
+        long[] edges = {0, 1, 2, 4, 0xffffffffL, 0x80000000L, 0x7fffffffL, 16380, 16383, 0xfffffff8L, 3};
+        for (int k = 1; k < 32; k++) {
+            registers[k] = random.nextBoolean() ? edges[random.nextInt(edges.length)] : random.nextInt() & 0xffffffffL;
+            x.set(k, (int) registers[k]);
+        }
+        for (int k = 0; k < 60; k++) {
+            int word = word(random);
+            x.put(k * 4, word);
+            storeBytes(bytes, k * 4, word, 4);
+        }
+        for (int step = 0; step < 60; step++) {
+            int why = Model.step(bytes, registers);
+            Due.be(what + "step " + step, x.go(1), why);
+            Due.be(what + "PC", x.board(32), (int) registers[32]);
+            for (int k = 0; k < 32; k++) {
+                Due.be(what + "register " + k, x.board(k), (int) registers[k]);
+            }
+            if (why != 0 && why < 6) {
+                int pc = (step + 1) % 60 * 4;
+                registers[32] = pc;
+                x.set(32, pc);
+            }
+        }
+        for (int k = 0; k < 4096; k++) {
+            Due.be(what + "word " + k, x.board(100 + k), (int) Model.load(bytes, k * 4, 4));
+        }
+    }
+
+    static void storeBytes(byte[] bytes, int at, long number, int size) {
+        for (int k = 0; k < size; k++) {
+            bytes[at + k] = (byte) (number >> 8 * k);
+        }
+    }
+
+    private static int word(Random random) {
+        int[] codes = {0x37, 0x17, 0x6f, 0x67, 0x63, 0x03, 0x23, 0x13, 0x33, 0x33, 0x33, 0x33, 0x13, 0x13, 0x0f, 0x73};
+        int word = random.nextInt() & ~127 | codes[random.nextInt(codes.length)];
+        int code = word & 127;
+        if (code == 0x33 && random.nextInt(20) > 0) {
+            int[] kinds = {0, 1, 1, 32};
+            word = word & 0x1ffffff | kinds[random.nextInt(4)] << 25;
+        }
+        if (code == 0x6f || code == 0x63) {
+            // Mostly near, so that the words go on.
+            int offset = (random.nextInt(20) - 8) * (random.nextInt(5) == 0 ? 2 : 4);
+            word = code == 0x6f ? j(word >> 7 & 31, offset) : b(word >> 12 & 7, word >> 15 & 31, word >> 20 & 31, offset);
+        }
+        if ((code == 0x03 || code == 0x23) && random.nextInt(3) > 0) {
+            word &= ~(31 << 15);
+        }
+        if (code == 0x73 && random.nextInt(3) > 0) {
+            word = random.nextBoolean() ? 0x73 : 0x100073;
+        }
+        return word;
+    }
+
+    /** The BOARD once more, in another way. */
+    private static final class Model {
+        static long load(byte[] bytes, int at, int size) {
+            long number = 0;
+            for (int k = size - 1; k >= 0; k--) {
+                number = number << 8 | bytes[at + k] & 255;
+            }
+            return number;
+        }
+
+        private static long bits(int word, int from, int to) {
+            return (word & 0xffffffffL) >> from & (1L << to - from + 1) - 1;
+        }
+
+        private static long signed(long number, int bits) {
+            return number << 64 - bits >> 64 - bits;
+        }
+
+        private static long low(long number) {
+            return number & 0xffffffffL;
+        }
+
+        static int step(byte[] bytes, long[] r) {
+            long pc = r[32];
+            if (pc % 4 != 0 || pc >= 16384) {
+                return 1;
+            }
+            int word = (int) load(bytes, (int) pc, 4);
+            int d = (int) bits(word, 7, 11);
+            int f = (int) bits(word, 12, 14);
+            long a = r[(int) bits(word, 15, 19)];
+            long b = r[(int) bits(word, 20, 24)];
+            int g = (int) bits(word, 25, 31);
+            long number = signed(bits(word, 20, 31), 12);
+            long upper = bits(word, 12, 31) << 12;
+            long next = low(pc + 4);
+            Long result = null;
+            switch ((int) bits(word, 0, 6)) {
+                case 0x37:
+                    result = upper;
+                    break;
+                case 0x17:
+                    result = pc + upper;
+                    break;
+                case 0x6f:
+                    long jump = bits(word, 31, 31) << 20 | bits(word, 12, 19) << 12 | bits(word, 20, 20) << 11 | bits(word, 21, 30) << 1;
+                    result = next;
+                    next = low(pc + signed(jump, 21));
+                    break;
+                case 0x67:
+                    if (f != 0) {
+                        return 2;
+                    }
+                    result = next;
+                    next = low(a + number) / 2 * 2;
+                    break;
+                case 0x63:
+                    long sa = signed(a, 32);
+                    long sb = signed(b, 32);
+                    boolean[] goes = {a == b, a != b, false, false, sa < sb, sa >= sb, a < b, a >= b};
+                    if (f == 2 || f == 3) {
+                        return 2;
+                    }
+                    if (goes[f]) {
+                        long branch = bits(word, 31, 31) << 12 | bits(word, 7, 7) << 11 | bits(word, 25, 30) << 5 | bits(word, 8, 11) << 1;
+                        next = low(pc + signed(branch, 13));
+                    }
+                    break;
+                case 0x03:
+                case 0x23:
+                    boolean loads = bits(word, 0, 6) == 3;
+                    int[] sizes = {1, 2, 4, 0, 1, 2, 0, 0};
+                    int size = loads || f < 3 ? sizes[f] : 0;
+                    if (size == 0) {
+                        return 2;
+                    }
+                    long address = low(a + (loads ? number : signed(bits(word, 25, 31) << 5 | d, 12)));
+                    if (address % size != 0) {
+                        return 4;
+                    }
+                    if (address + size > 16384) {
+                        return 5;
+                    }
+                    if (loads) {
+                        long loaded = load(bytes, (int) address, size);
+                        result = f < 3 ? signed(loaded, size * 8) : loaded;
+                    } else {
+                        storeBytes(bytes, (int) address, b, size);
+                    }
+                    break;
+                case 0x13:
+                    if (f == 1 && g != 0 || f == 5 && g != 0 && g != 32) {
+                        return 2;
+                    }
+                    result = simple(f, f == 5 ? g : 0, a, low(number));
+                    break;
+                case 0x33:
+                    if (g == 1) {
+                        result = great(f, a, b);
+                    } else if (g == 0 || g == 32 && (f == 0 || f == 5)) {
+                        result = simple(f, g, a, b);
+                    } else {
+                        return 2;
+                    }
+                    break;
+                case 0x0f:
+                    if (f != 0) {
+                        return 2;
+                    }
+                    break;
+                default:
+                    if (word != 0x73 && word != 0x100073) {
+                        return 2;
+                    }
+                    r[32] = next;
+                    return word == 0x73 ? 6 : 7;
+            }
+            if (next % 4 != 0) {
+                return 3;
+            }
+            if (result != null && d != 0) {
+                r[d] = low(result);
+            }
+            r[32] = next;
+            return 0;
+        }
+
+        private static long simple(int f, int g, long a, long b) {
+            int n = (int) (b % 32);
+            switch (f) {
+                case 0:
+                    return g == 0 ? a + b : a - b;
+                case 1:
+                    return a << n;
+                case 2:
+                    return signed(a, 32) < signed(b, 32) ? 1 : 0;
+                case 3:
+                    return a < b ? 1 : 0;
+                case 4:
+                    return a ^ b;
+                case 5:
+                    return g == 0 ? a >> n : signed(a, 32) >> n;
+                case 6:
+                    return a | b;
+                default:
+                    return a & b;
+            }
+        }
+
+        private static long great(int f, long a, long b) {
+            BigInteger sa = BigInteger.valueOf(signed(a, 32));
+            BigInteger sb = BigInteger.valueOf(signed(b, 32));
+            BigInteger ua = BigInteger.valueOf(a);
+            BigInteger ub = BigInteger.valueOf(b);
+            if (f >= 4 && b == 0) {
+                return f < 6 ? -1 : a;
+            }
+            BigInteger[] results = {sa.multiply(sb), sa.multiply(sb).shiftRight(32), sa.multiply(ub).shiftRight(32), ua.multiply(ub).shiftRight(32)};
+            if (f < 4) {
+                return results[f].longValue();
+            }
+            switch (f) {
+                case 4:
+                    return sa.divide(sb).longValue();
+                case 5:
+                    return ua.divide(ub).longValue();
+                case 6:
+                    return sa.remainder(sb).longValue();
+                default:
+                    return ua.remainder(ub).longValue();
+            }
+        }
+    }
+}
