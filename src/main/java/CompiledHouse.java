@@ -10,7 +10,7 @@ public final class CompiledHouse {
     private static final int MOST_BYTES = 4000;
     private static final int MOST_TOKENS = MOST_BYTES + 1;
     // More different NAMEs than a tape can hold.
-    private static final int MOST_NAMES = 2048;
+    private static final int MOST_NAMES = 1408;
     private static final int MOST_OPEN = 40;
     private static final int MOST_FUNCTIONS = 40;
     private static final int MOST_FORMALS = 4;
@@ -717,7 +717,7 @@ public final class CompiledHouse {
     /** The words of the machine. Nothing comes while it is off. */
     private static final class Code {
         // No text makes more than two words of each of its bytes.
-        private static final int MOST = 9000;
+        private static final int MOST = 8400;
         private final int[] words = new int[MOST];
         int count;
         boolean on;
@@ -865,7 +865,7 @@ public final class CompiledHouse {
         static final int TOO_MUCH = 8;
         static final int WRONG_MAIN = 9;
         private static final int[] FAULT_KINDS = {4, 5, 7, 8, 6, 8, 9, 10, 11, 12};
-        private static final int MOST_SYMBOLS = 800;
+        private static final int MOST_SYMBOLS = 700;
 
         private final Program program;
         private final int[] ids = new int[MOST_SYMBOLS];
@@ -1119,9 +1119,8 @@ public final class CompiledHouse {
         private final Code code;
         private final Program program;
         private final Machine machine;
-        // Operators that wait for their right operand, of all E's that are open, and their jumps.
+        // Operators that wait for their right operand, of all E's that are open; below || and && their jump.
         private final int[] operators = new int[MOST_TOKENS];
-        private final int[] jumps = new int[MOST_TOKENS];
         private int waiting;
 
         Expressions(Cursor cursor, Judge judge, Code code, Program program, Machine machine) {
@@ -1205,29 +1204,32 @@ public final class CompiledHouse {
         }
 
         private void waits(int operator) {
-            if (waiting >= MOST_TOKENS) {
+            if (waiting >= MOST_TOKENS - 1) {
                 return;
             }
-            operators[waiting] = operator;
-            jumps[waiting] = NONE;
-            if (operator == EITHER) {
-                jumps[waiting] = code.addJump(JUMP_IF_EITHER, NONE);
-            } else if (operator == BOTH) {
-                jumps[waiting] = code.addJump(JUMP_IF_NOT_BOTH, NONE);
+            if (operator == EITHER || operator == BOTH) {
+                operators[waiting] = code.addJump(operator == EITHER ? JUMP_IF_EITHER : JUMP_IF_NOT_BOTH, NONE);
+                waiting++;
             }
+            operators[waiting] = operator;
             waiting++;
         }
 
         /** The operators above base that bind at least so strongly have their right operand now. */
         private void settle(int base, int least) {
-            for (int n = waiting - 1; n >= base && n >= 0 && strength(operators[n]) >= least; n--) {
-                if (operators[n] == EITHER || operators[n] == BOTH) {
-                    code.add(TRUTH);
-                    code.aim(jumps[n], code.count);
-                } else {
-                    code.add(operators[n]);
+            for (int n = 0; n < MOST_TOKENS && waiting > base && waiting > 0; n++) {
+                int operator = operators[waiting - 1];
+                if (strength(operator) < least) {
+                    return;
                 }
-                waiting = n;
+                waiting--;
+                if ((operator == EITHER || operator == BOTH) && waiting > 0) {
+                    waiting--;
+                    code.add(TRUTH);
+                    code.aim(operators[waiting], code.count);
+                } else {
+                    code.add(operator);
+                }
             }
         }
 

@@ -10,7 +10,7 @@ public final class ChanceTest {
     private static final int[] HOWS = new int[7];
 
     public static void main(String[] args) throws InterruptedException {
-        int texts = args.length > 0 ? Integer.parseInt(args[0]) : 6000;
+        int texts = args.length > 0 ? Integer.parseInt(args[0]) : 8000;
         long first = args.length > 1 ? Long.parseLong(args[1]) : 1;
         // The oracle does deep runs by deep calls.
         Thread thread = new Thread(null, () -> all(texts, first), "oracle", 1L << 30);
@@ -18,7 +18,7 @@ public final class ChanceTest {
         thread.join();
         System.out.println(right + " right texts, " + faulty + " with faults");
         for (int kind = 1; kind <= 12; kind++) {
-            Due.be("texts with fault " + kind + " are among them", KINDS[kind] > 0 || texts < 6000, true);
+            Due.be("texts with fault " + kind + " are among them", KINDS[kind] > 0 || texts < 8000, true);
         }
         for (int how = 1; how <= 6; how++) {
             Due.be("runs that are " + how + " are among them", HOWS[how] > 0, true);
@@ -34,11 +34,11 @@ public final class ChanceTest {
         for (long seed = first; seed < first + texts && Due.wrong() < 20; seed++) {
             TextMaker maker = new TextMaker(seed);
             Random random = new Random(~seed);
-            int how = (int) (seed % 5);
-            List<String> tokens = how < 3 ? maker.program() : new WildMaker(seed).program();
-            if (how == 1 || how == 4) {
+            int how = (int) (seed % 7);
+            List<String> tokens = how < 5 ? maker.program() : new WildMaker(seed).program();
+            if (how == 3 || how == 5) {
                 maker.spoil(tokens, 1 + random.nextInt(3));
-            } else if (how == 2) {
+            } else if (how == 4) {
                 maker.mistake(tokens, 1 + random.nextInt(3));
             }
             String text = maker.joined(tokens);

@@ -405,6 +405,10 @@ public final class RunTest {
         Due.output("int e(int n){if(n==0)return 1;return o(n-1);}int o(int n){if(n==0)return 0;return e(n-1);}int main(){put(e(9));put(o(9));}", NOTHING, 0, 1);
         Due.output("int f(){}int g(int a){if(a)return 4;}void h(){return;}int main(){put(f());put(g(1));put(g(0));h();put(1);}", NOTHING, 0, 4, 0, 1);
         Due.output("int n;int main(){n++;if(n<4)main();put(n);}", NOTHING, 4, 4, 4, 4);
+        // What a function tells and leaves does not touch the values that wait in its caller.
+        Due.output("int f(int p){int x;int a[1+1];byte b[0?2:3];put(x);put(a[1]+b[2]);x=p;for(int i=x;i<9;i++){int y;put(y);y=7;if(i==4)return x;}return-x;}"
+                + "int main(){put(10-f(4)*f(9));int a[5];a[f(4)]=20-f(4);put(a[4]);a[f(4)]+=f(9);put(a[4]);}",
+                NOTHING, 0, 0, 0, 0, 0, 46, 0, 0, 0, 0, 0, 0, 16, 0, 0, 0, 0, 0, 7);
         Due.output("int a(int x){return x+b(x);}int b(int x){x*=2;return x;}int main(){put(a(3)+a(b(2)));}", NOTHING, 21);
     }
 

@@ -22,6 +22,7 @@ final class TextMaker {
     private final List<Known> known = new ArrayList<>();
     private final List<Known> functions = new ArrayList<>();
     private boolean gives;
+    private int current;
     private int loops;
     private int fresh;
     private int localWords;
@@ -54,7 +55,7 @@ final class TextMaker {
             }
             functions.add(new Known("f" + i, "function", 0, chance(70), formals));
         }
-        int main = upTo(count + 1);
+        int main = chance(60) ? 0 : upTo(count + 1);
         functions.add(main, new Known("main", "function", 0, chance(70), List.of()));
         known.addAll(functions);
         for (Known f : functions) {
@@ -137,6 +138,12 @@ final class TextMaker {
         return fitting.isEmpty() ? null : fitting.get(upTo(fitting.size()));
     }
 
+    /** A function, mostly one told later, so that not all runs end in STACK. */
+    private Known pickFunction() {
+        int first = chance(85) ? Math.min(current + 1, functions.size() - 1) : 0;
+        return functions.get(first + upTo(functions.size() - first));
+    }
+
     private void constant(int depth) {
         int how = upTo(depth > 0 ? 8 : 3);
         Known c = pick("const");
@@ -191,6 +198,7 @@ final class TextMaker {
         }
         add(")", "{");
         gives = f.gives;
+        current = functions.indexOf(f);
         loops = 0;
         localWords = 0;
         statements(3, 1 + upTo(6));
@@ -354,8 +362,8 @@ final class TextMaker {
 
     private void simple() {
         int how = upTo(10);
-        Known f = pick("function");
-        if (how < 2 && f != null) {
+        Known f = pickFunction();
+        if (how < 2) {
             call(f, 1);
             return;
         }
@@ -446,9 +454,11 @@ final class TextMaker {
             expression(depth - 1);
         } else if (how == 8 && chance(30)) {
             add("get", "(", ")");
-        } else if (how == 9 && chance(50)) {
-            Known f = pick("function");
-            if (f != null && f.gives) {
+        } else if (how == 9) {
+            Known f = pickFunction();
+            if (f.gives) {
+                number();
+                add(JOINS[upTo(JOINS.length)]);
                 call(f, depth - 1);
             } else {
                 number();
