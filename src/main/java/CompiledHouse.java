@@ -1405,7 +1405,10 @@ public final class CompiledHouse {
                 if (isConst) {
                     constTold(id, place);
                 } else if (cursor.kind == PAREN && word != BYTE) {
-                    function(id, place, word == INT);
+                    startFunction(id, place, word == INT);
+                    formals(id == mainId);
+                    block();
+                    endFunction();
                 } else if (cursor.kind == BRACKET && word != VOID) {
                     globalArray(id, place, word == INT ? INTS : BYTES);
                 } else if (word == INT) {
@@ -1500,29 +1503,30 @@ public final class CompiledHouse {
             cursor.closesWith(BRACE_END);
         }
 
-        private void function(int id, int place, boolean gives) {
-            int number = seen;
-            seen++;
+        private void startFunction(int id, int place, boolean gives) {
             if (judge.on) {
-                judge.tellFunction(id, place, number);
+                judge.tellFunction(id, place, seen);
             } else {
                 program.addFunction(place, gives);
-                judge.announce(id, place, number);
+                judge.announce(id, place, seen);
                 if (id == mainId && program.main == NONE) {
-                    program.main = number;
+                    program.main = seen;
                 }
             }
+            if (program.has(seen)) {
+                program.entries[seen] = code.count;
+            }
             judge.enterFunction(gives);
-            int entry = code.count;
-            formals(id == mainId);
-            block();
+        }
+
+        private void endFunction() {
             code.addPair(PUSH, 0);
             code.add(RETURN);
-            if (judge.on && program.has(number)) {
-                program.entries[number] = entry;
-                program.measures[number] = judge.measure();
+            if (judge.on && program.has(seen)) {
+                program.measures[seen] = judge.measure();
             }
             judge.leave();
+            seen++;
         }
 
         private void formals(boolean ofMain) {
