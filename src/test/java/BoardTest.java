@@ -18,26 +18,6 @@ public final class BoardTest {
         Due.done();
     }
 
-    private static int i(int op, int d, int f, int a, int number) {
-        return number << 20 | a << 15 | f << 12 | d << 7 | op;
-    }
-
-    private static int r(int g, int d, int f, int a, int b) {
-        return g << 25 | b << 20 | a << 15 | f << 12 | d << 7 | 0x33;
-    }
-
-    private static int s(int f, int a, int b, int offset) {
-        return offset >> 5 << 25 | b << 20 | a << 15 | f << 12 | (offset & 31) << 7 | 0x23;
-    }
-
-    private static int b(int f, int a, int b, int offset) {
-        return (offset >> 12 & 1) << 31 | (offset >> 5 & 63) << 25 | b << 20 | a << 15 | f << 12 | (offset >> 1 & 15) << 8 | (offset >> 11 & 1) << 7 | 0x63;
-    }
-
-    private static int j(int d, int offset) {
-        return (offset >> 20 & 1) << 31 | (offset >> 1 & 1023) << 21 | (offset >> 11 & 1) << 20 | (offset >> 12 & 255) << 12 | d << 7 | 0x6f;
-    }
-
     private static void put() {
         CompiledHouse x = new CompiledHouse();
         Due.be("put", x.put(0, 11), true);
@@ -73,8 +53,8 @@ public final class BoardTest {
             Due.be("go " + n, x.go(n), -1);
         }
         // A loop of two words.
-        x.put(0, i(0x13, 1, 0, 1, 1));
-        x.put(4, j(0, -4));
+        x.put(0, Words.i(0x13, 1, 0, 1, 1));
+        x.put(4, Words.j(0, -4));
         Due.be("go", x.go(1000), 0);
         Due.be("counted", x.board(1), 500);
         Due.be("words", x.board(33), 1000);
@@ -146,27 +126,27 @@ public final class BoardTest {
         stop(0x0f | 31 << 7, 0, 0);
         stop(0x100f, 0, 2);
         for (int f = 0; f < 8; f++) {
-            stop(i(0x67, 31, f, 2, 2), 8, f == 0 ? 0 : 2, 4);
-            stop(b(f, 0, 0, 2), 0, f == 2 || f == 3 ? 2 : f == 0 || f == 5 || f == 7 ? 3 : 0);
-            stop(i(0x03, 31, f, 0, 64), 0, f == 3 || f > 5 ? 2 : 0);
-            stop(i(0x03, 31, f, 1, 0), 0, f == 3 || f > 5 ? 2 : (f & 3) == 0 ? 0 : 4);
-            stop(i(0x03, 31, f, 2, 0), 0, f == 3 || f > 5 ? 2 : f == 2 ? 4 : 0);
-            stop(i(0x03, 31, f, 3, 0), 0, f == 3 || f > 5 ? 2 : 5);
-            stop(i(0x03, 31, f, 3, 1), 0, f == 3 || f > 5 ? 2 : (f & 3) == 0 ? 5 : 4);
-            stop(i(0x03, 31, f, 3, -4), 0, f == 3 || f > 5 ? 2 : 0);
-            stop(i(0x03, 31, f, 4, 0), 0, f == 3 || f > 5 ? 2 : 5);
-            stop(i(0x03, 31, f, 4, 4), 0, f == 3 || f > 5 ? 2 : 0);
-            stop(i(0x03, 0, f, 3, 0), 0, f == 3 || f > 5 ? 2 : 5);
-            stop(s(f, 0, 31, 64), 0, f > 2 ? 2 : 0);
-            stop(s(f, 1, 31, 0), 0, f > 2 ? 2 : f == 0 ? 0 : 4);
-            stop(s(f, 5, 31, 0), 0, f > 2 ? 2 : f == 2 ? 4 : 0);
-            stop(s(f, 3, 31, 0), 0, f > 2 ? 2 : 5);
-            stop(s(f, 3, 31, -4), 0, f > 2 ? 2 : 0);
+            stop(Words.i(0x67, 31, f, 2, 2), 8, f == 0 ? 0 : 2, 4);
+            stop(Words.b(f, 0, 0, 2), 0, f == 2 || f == 3 ? 2 : f == 0 || f == 5 || f == 7 ? 3 : 0);
+            stop(Words.i(0x03, 31, f, 0, 64), 0, f == 3 || f > 5 ? 2 : 0);
+            stop(Words.i(0x03, 31, f, 1, 0), 0, f == 3 || f > 5 ? 2 : (f & 3) == 0 ? 0 : 4);
+            stop(Words.i(0x03, 31, f, 2, 0), 0, f == 3 || f > 5 ? 2 : f == 2 ? 4 : 0);
+            stop(Words.i(0x03, 31, f, 3, 0), 0, f == 3 || f > 5 ? 2 : 5);
+            stop(Words.i(0x03, 31, f, 3, 1), 0, f == 3 || f > 5 ? 2 : (f & 3) == 0 ? 5 : 4);
+            stop(Words.i(0x03, 31, f, 3, -4), 0, f == 3 || f > 5 ? 2 : 0);
+            stop(Words.i(0x03, 31, f, 4, 0), 0, f == 3 || f > 5 ? 2 : 5);
+            stop(Words.i(0x03, 31, f, 4, 4), 0, f == 3 || f > 5 ? 2 : 0);
+            stop(Words.i(0x03, 0, f, 3, 0), 0, f == 3 || f > 5 ? 2 : 5);
+            stop(Words.s(f, 0, 31, 64), 0, f > 2 ? 2 : 0);
+            stop(Words.s(f, 1, 31, 0), 0, f > 2 ? 2 : f == 0 ? 0 : 4);
+            stop(Words.s(f, 5, 31, 0), 0, f > 2 ? 2 : f == 2 ? 4 : 0);
+            stop(Words.s(f, 3, 31, 0), 0, f > 2 ? 2 : 5);
+            stop(Words.s(f, 3, 31, -4), 0, f > 2 ? 2 : 0);
             for (int g = 0; g < 128; g++) {
                 boolean number = f != 1 && f != 5 || g == 0 || f == 5 && g == 32;
-                stop(i(0x13, 31, f, 0, g << 5) & ~0xf80, 0, number ? 0 : 2);
+                stop(Words.i(0x13, 31, f, 0, g << 5) & ~0xf80, 0, number ? 0 : 2);
                 boolean register = g == 0 || g == 1 || g == 32 && (f == 0 || f == 5);
-                stop(r(g, 0, f, 1, 2), 0, register ? 0 : 2);
+                stop(Words.r(g, 0, f, 1, 2), 0, register ? 0 : 2);
             }
         }
         for (int code = 0; code < 128; code++) {
@@ -175,10 +155,10 @@ public final class BoardTest {
                 stop(code, 0, 2);
             }
         }
-        stop(j(31, 2), 0, 3);
-        stop(j(31, 6), 0, 3);
-        stop(i(0x67, 31, 0, 2, 0), 0, 3);
-        stop(i(0x67, 31, 0, 2, 1), 0, 3);
+        stop(Words.j(31, 2), 0, 3);
+        stop(Words.j(31, 6), 0, 3);
+        stop(Words.i(0x67, 31, 0, 2, 0), 0, 3);
+        stop(Words.i(0x67, 31, 0, 2, 1), 0, 3);
     }
 
     private static void stop(int word, int pc, int why, int next) {
@@ -193,12 +173,12 @@ public final class BoardTest {
 
     private static void nothingToDoWithTexts() {
         CompiledHouse x = new CompiledHouse();
-        x.put(0, i(0x13, 1, 0, 0, 5));
+        x.put(0, Words.i(0x13, 1, 0, 0, 5));
         x.set(7, 77);
         Due.be("read", Due.read(x, "int g=1;int main(){g=2;put(3);}"), 0);
         x.begin(10);
         x.run(1);
-        Due.be("memory", x.board(100), i(0x13, 1, 0, 0, 5));
+        Due.be("memory", x.board(100), Words.i(0x13, 1, 0, 0, 5));
         Due.be("go", x.go(1), 0);
         Due.be("register", x.board(1), 5);
         Due.be("register", x.board(7), 77);
@@ -213,29 +193,29 @@ public final class BoardTest {
         CompiledHouse x = new CompiledHouse();
         for (int offset : new int[] {4, -4, 2048, -2048, 4092, -4096, 8192, -8192, 4}) {
             x.set(32, 8192);
-            x.put(8192, j(5, offset));
+            x.put(8192, Words.j(5, offset));
             Due.be("go", x.go(1), 0);
             Due.be("PC", x.board(32), 8192 + offset);
             Due.be("link", x.board(5), 8196);
             if (offset >= -4096 && offset < 4096) {
                 x.set(32, 8192);
-                x.put(8192, b(0, 3, 3, offset));
+                x.put(8192, Words.b(0, 3, 3, offset));
                 Due.be("go", x.go(1), 0);
                 Due.be("PC", x.board(32), 8192 + offset);
             }
         }
         // A jump beyond MEMORY is done; what fails is the next FETCH.
-        x.put(0, j(0, 1048572));
+        x.put(0, Words.j(0, 1048572));
         x.set(32, 0);
         Due.be("go", x.go(1), 0);
         Due.be("PC", x.board(32), 1048572);
         Due.be("go", x.go(1), 1);
-        x.put(0, j(0, -1048576));
+        x.put(0, Words.j(0, -1048576));
         x.set(32, 0);
         Due.be("go", x.go(2), 1);
         Due.be("PC", x.board(32), -1048576);
         // d is the register that told the jump.
-        x.put(0, i(0x67, 6, 0, 6, -1));
+        x.put(0, Words.i(0x67, 6, 0, 6, -1));
         x.set(6, 102);
         x.set(32, 0);
         Due.be("go", x.go(1), 0);
@@ -251,15 +231,15 @@ public final class BoardTest {
         CompiledHouse x = new CompiledHouse();
         x.set(1, 0x80);
         x.set(2, 0x818283f4);
-        x.put(0, s(2, 1, 2, 4));
-        x.put(4, i(0x03, 3, 0, 1, 4));
-        x.put(8, i(0x03, 4, 4, 1, 7));
-        x.put(12, i(0x03, 5, 1, 1, 6));
-        x.put(16, i(0x03, 6, 5, 1, 4));
-        x.put(20, i(0x03, 7, 2, 1, 4));
-        x.put(24, s(0, 1, 2, 9));
-        x.put(28, s(1, 1, 2, 10));
-        x.put(32, i(0x03, 8, 0, 1, 7));
+        x.put(0, Words.s(2, 1, 2, 4));
+        x.put(4, Words.i(0x03, 3, 0, 1, 4));
+        x.put(8, Words.i(0x03, 4, 4, 1, 7));
+        x.put(12, Words.i(0x03, 5, 1, 1, 6));
+        x.put(16, Words.i(0x03, 6, 5, 1, 4));
+        x.put(20, Words.i(0x03, 7, 2, 1, 4));
+        x.put(24, Words.s(0, 1, 2, 9));
+        x.put(28, Words.s(1, 1, 2, 10));
+        x.put(32, Words.i(0x03, 8, 0, 1, 7));
         Due.be("go", x.go(9), 0);
         Due.be("word", x.board(100 + 33), 0x818283f4);
         Due.be("lb", x.board(3), 0xfffffff4);
@@ -272,7 +252,7 @@ public final class BoardTest {
         // The BOARD may change its own words.
         x.set(32, 64);
         x.set(9, 0x73);
-        x.put(64, s(2, 0, 9, 68));
+        x.put(64, Words.s(2, 0, 9, 68));
         x.put(68, 0);
         Due.be("go", x.go(5), 6);
     }
@@ -327,7 +307,7 @@ public final class BoardTest {
         if (code == 0x6f || code == 0x63) {
             // Mostly near, so that the words go on.
             int offset = (random.nextInt(20) - 8) * (random.nextInt(5) == 0 ? 2 : 4);
-            word = code == 0x6f ? j(word >> 7 & 31, offset) : b(word >> 12 & 7, word >> 15 & 31, word >> 20 & 31, offset);
+            word = code == 0x6f ? Words.j(word >> 7 & 31, offset) : Words.b(word >> 12 & 7, word >> 15 & 31, word >> 20 & 31, offset);
         }
         if ((code == 0x03 || code == 0x23) && random.nextInt(3) > 0) {
             word &= ~(31 << 15);

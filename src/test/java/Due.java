@@ -26,10 +26,15 @@ final class Due {
 
     /** Feeds the text, padded with zeros, and cuts the padding. */
     static void feed(CompiledHouse house, String text) {
+        feed(house, 0, text);
+    }
+
+    /** Feeds the text behind the first bytes of the tape, which has them all. */
+    static void feed(CompiledHouse house, int behind, String text) {
         for (int i = 0; i < text.length(); i += 20) {
             house.feed(word(text, i), word(text, i + 4), word(text, i + 8), word(text, i + 12), word(text, i + 16));
         }
-        house.end(text.length());
+        house.end(behind + text.length());
     }
 
     private static int word(String text, int at) {
