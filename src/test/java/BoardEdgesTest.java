@@ -15,6 +15,7 @@ public final class BoardEdgesTest {
         goWith1To1000();
         boardOf0To33And100To4195();
         register0IsAlways0();
+        eachRegisterInEachPart();
         theLowestByteFirst();
         upperNumbers();
         jumps();
@@ -198,6 +199,64 @@ public final class BoardEdgesTest {
             Due.be("go", y.go(2), 0);
             Due.be("REGISTER " + d, y.board(d), d == 16 ? -10 : -5);
             Due.be("REGISTER " + (32 - d), y.board(32 - d), -10);
+        }
+    }
+
+    // "d is bits 7 .. 11, .. a 15 .. 19, b 20 .. 24"
+
+    private static void eachRegisterInEachPart() {
+        for (int n = 1; n <= 31; n++) {
+            int other = n == 31 ? 1 : n + 1;
+            int[] words = {Words.r(0, n, 0, other, 0), Words.r(0, other, 0, 0, n), Words.r(1, other, 0, n, n), Words.i(0x13, n, 0, n, 1), Words.u(0x37, n, 4096), Words.u(0x17, n, 4096), Words.j(n, 8), Words.i(0x67, n, 0, 0, 64),
+                Words.i(0x67, 0, 0, n, 0), Words.i(0x03, n, 2, 0, 200), Words.i(0x03, 0, 2, n, 0), Words.i(0x03, other, 4, n, 0), Words.s(2, 0, n, 208), Words.s(2, n, other, 8), Words.b(0, n, n, 16), Words.b(1, n, 0, 16), Words.b(4, 0, n, 16), Words.b(6, other, n, 16)};
+            for (int k = 0; k < words.length; k++) {
+                CompiledHouse x = at(4, words[k], 1 * 4 + 100, 2 * 4 + 100);
+                for (int r = 1; r <= 31; r++) {
+                    x.set(r, r * 4 + 100);
+                }
+                x.put(200, -77);
+                x.put(n * 4 + 100, 0x1122);
+                int[] r = new int[32];
+                for (int i = 1; i <= 31; i++) {
+                    r[i] = i * 4 + 100;
+                }
+                int pc = 8;
+                switch (k) {
+                    case 0 -> r[n] = r[other];
+                    case 1 -> r[other] = r[n];
+                    case 2 -> r[other] = r[n] * r[n];
+                    case 3 -> r[n]++;
+                    case 4 -> r[n] = 4096;
+                    case 5 -> r[n] = 4100;
+                    case 6 -> {
+                        r[n] = 8;
+                        pc = 12;
+                    }
+                    case 7 -> {
+                        r[n] = 8;
+                        pc = 64;
+                    }
+                    case 8 -> pc = r[n];
+                    case 9 -> r[n] = n == 25 ? 0x1122 : -77;
+                    case 11 -> r[other] = 0x22;
+                    case 14, 15, 16 -> pc = 20;
+                    case 17 -> pc = n == 31 ? 20 : 8;
+                    default -> {
+                    }
+                }
+                String what = "word " + k + " of register " + n;
+                Due.be(what, x.go(1), 0);
+                Due.be(what + ": PC", x.board(32), pc);
+                for (int i = 0; i <= 31; i++) {
+                    Due.be(what + ": register " + i, x.board(i), r[i]);
+                }
+                if (k == 12) {
+                    Due.be(what, x.board(100 + 52), n * 4 + 100);
+                }
+                if (k == 13) {
+                    Due.be(what, x.board(100 + (n * 4 + 108) / 4), other * 4 + 100);
+                }
+            }
         }
     }
 

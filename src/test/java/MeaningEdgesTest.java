@@ -5,6 +5,11 @@ public final class MeaningEdgesTest {
     private static final int MOST = Integer.MAX_VALUE;
 
     public static void main(String[] args) {
+        eachOperatorIsItsOwn();
+        whatBindsMore();
+        fromTheLeft();
+        aheadOfAnOperand();
+        bindsLeast();
         sumsAndProductsWrap();
         cutTowards0();
         dividedBy0();
@@ -22,7 +27,9 @@ public final class MeaningEdgesTest {
         whatIsThereThenTheE();
         madeAnew();
         theCallersOwn();
+        valuesThatWait();
         forLoops();
+        loopsInLoops();
         results();
         Due.done();
     }
@@ -35,6 +42,173 @@ public final class MeaningEdgesTest {
     private static void changed(String change, int a, int b, int due) {
         Due.output("int v;int w[3];int main(){int a=get();int b=get();int x=a;x" + change + ";put(x);v=a;v" + change + ";put(v);w[1]=a;w[1]" + change + ";put(w[1]);put(w[0]|w[2]);}",
                 new int[] {a, b}, due, due, due, 0);
+    }
+
+    /** Of two rows of numbers no two operators give the same in both. */
+    private static void eachOperatorIsItsOwn() {
+        String[] signs = {"|", "^", "&", "+", "-", "*", "/", "%", "<<", ">>", ">>>"};
+        int[] due = {-203, -208, 5, -198, -208, -1015, -40, -3, -6496, -7, 134217721};
+        int[] others = {102, 98, 4, 106, 94, 600, 16, 4, 6400, 1, 1};
+        for (int k = 0; k < signs.length; k++) {
+            worth("a" + signs[k] + "b", -203, 5, due[k]);
+            changed(signs[k] + "=b", -203, 5, due[k]);
+            worth("a" + signs[k] + "b", 100, 6, others[k]);
+            changed(signs[k] + "=b", 100, 6, others[k]);
+        }
+    }
+
+    // "E: .. then || , && , | , ^ , & , == != , < <= > >= , << >> >>> , + - , * / % (all these from the left)"
+
+    private static final String[][] LEVELS = {
+        {"||"}, {"&&"}, {"|"}, {"^"}, {"&"}, {"==", "!="}, {"<", "<=", ">", ">="}, {"<<", ">>", ">>>"}, {"+", "-"}, {"*", "/", "%"}};
+
+    private static int joined(String sign, int a, int b) {
+        switch (sign) {
+            case "||":
+                return a != 0 || b != 0 ? 1 : 0;
+            case "&&":
+                return a != 0 && b != 0 ? 1 : 0;
+            case "|":
+                return a | b;
+            case "^":
+                return a ^ b;
+            case "&":
+                return a & b;
+            case "==":
+                return a == b ? 1 : 0;
+            case "!=":
+                return a != b ? 1 : 0;
+            case "<":
+                return a < b ? 1 : 0;
+            case "<=":
+                return a <= b ? 1 : 0;
+            case ">":
+                return a > b ? 1 : 0;
+            case ">=":
+                return a >= b ? 1 : 0;
+            case "<<":
+                return a << (b & 31);
+            case ">>":
+                return a >> (b & 31);
+            case ">>>":
+                return a >>> (b & 31);
+            case "+":
+                return a + b;
+            case "-":
+                return a - b;
+            case "*":
+                return a * b;
+            case "/":
+                return b == 0 ? -1 : a / b;
+            default:
+                return b == 0 ? a : a % b;
+        }
+    }
+
+    private static final int[] FEW = {0, 1, 2, 3, 5, 6, 7, 12, -1, -2, -3, -7};
+
+    /** Of each two operators, with numbers of which the two ways to join them make different values, if there are such. */
+    private static void whatBindsMore() {
+        int told = 0;
+        for (int low = 0; low < LEVELS.length; low++) {
+            for (int high = low; high < LEVELS.length; high++) {
+                for (String one : LEVELS[low]) {
+                    for (String other : LEVELS[high]) {
+                        told += pair(one, other, low == high);
+                        told += low == high ? 0 : pair(other, one, true);
+                    }
+                }
+            }
+        }
+        Due.be("pairs that can be told apart: " + told, told >= 340, true);
+    }
+
+    private static int pair(String first, String second, boolean leftFirst) {
+        int found = 0;
+        for (int a : FEW) {
+            for (int b : FEW) {
+                for (int c : FEW) {
+                    int left = joined(second, joined(first, a, b), c);
+                    int right = joined(first, a, joined(second, b, c));
+                    if (left != right && found < 3) {
+                        found++;
+                        String e = "a" + first + "b" + second + "c";
+                        Due.output("int main(){int a=get();int b=get();int c=get();put(" + e + ");}", new int[] {a, b, c}, leftFirst ? left : right);
+                        Due.output("const int a=" + a + ";const int b=" + b + ";const int c=" + c + ";const int d=" + e + ";int main(){put(d);}", NOTHING, leftFirst ? left : right);
+                    }
+                }
+            }
+        }
+        return found > 0 ? 1 : 0;
+    }
+
+    private static void fromTheLeft() {
+        worth("a-b-1", 10, 3, 6);
+        worth("a-(b-1)", 10, 3, 8);
+        worth("a/b/2", 100, 5, 10);
+        worth("a%b%4", 29, 11, 3);
+        worth("a/b*b", 29, 11, 22);
+        worth("a*b/4%3", 7, 6, 1);
+        worth("a<<b<<1", 1, 2, 8);
+        worth("a>>b<<b", 7, 1, 6);
+        worth("a<b<2", 5, 3, 1);
+        worth("a==b==0", 5, 3, 1);
+        worth("a-b+1", 5, 3, 3);
+        worth("a>b>=1", 9, 3, 1);
+    }
+
+    // "then - ~ ! ahead of an operand (any number of them)"
+
+    private static void aheadOfAnOperand() {
+        for (String[] level : LEVELS) {
+            for (String sign : level) {
+                for (int a : new int[] {0, 1, 6, -3}) {
+                    for (int b : new int[] {0, 1, 2, -5}) {
+                        worth("-a" + sign + "b", a, b, joined(sign, -a, b));
+                        worth("~a" + sign + "b", a, b, joined(sign, ~a, b));
+                        worth("!a" + sign + "b", a, b, joined(sign, a == 0 ? 1 : 0, b));
+                        worth("a" + sign + " -b", a, b, joined(sign, a, -b));
+                        worth("a" + sign + "~b", a, b, joined(sign, a, ~b));
+                        worth("a" + sign + "!b", a, b, joined(sign, a, b == 0 ? 1 : 0));
+                    }
+                }
+            }
+        }
+        worth("- -a", 5, 0, 5);
+        worth("~-a", 5, 0, 4);
+        worth("-~a", 5, 0, 6);
+        worth("!-a", 5, 0, 0);
+        worth("-!a", 0, 0, -1);
+        worth("!~a", -1, 0, 1);
+        worth("~!a", 0, 0, -2);
+        worth("- - - -a", 5, 0, 5);
+        Due.output("int a[2]={3,4};int f(){return 6;}int main(){put(-a[1]);put(~f());put(!a[0]);put(-(1+2));put(- -f()*-a[0]);}", NOTHING, -4, -7, 0, -3, -18);
+    }
+
+    // "E ? E : E binds least (from the right: behind the : comes an E)"
+
+    private static void bindsLeast() {
+        for (String[] level : LEVELS) {
+            for (String sign : level) {
+                for (int a : new int[] {0, 1, 6}) {
+                    for (int b : new int[] {0, 1, 2}) {
+                        worth("a" + sign + "b?7:8", a, b, joined(sign, a, b) != 0 ? 7 : 8);
+                        worth("1?a" + sign + "b:8", a, b, joined(sign, a, b));
+                        worth("0?8:a" + sign + "b", a, b, joined(sign, a, b));
+                        worth("1?a:8" + sign + "b", a, b, a);
+                        worth("(1?a:8)" + sign + "b", a, b, joined(sign, a, b));
+                    }
+                }
+            }
+        }
+        for (int a = 0; a <= 2; a++) {
+            for (int b = 0; b <= 2; b++) {
+                worth("a?1:b?2:3", a, b, a != 0 ? 1 : b != 0 ? 2 : 3);
+                worth("a?b?1:2:3", a, b, a != 0 ? b != 0 ? 1 : 2 : 3);
+                worth("(a?1:0)?b:9", a, b, a != 0 ? b : 9);
+                worth("a?b:a?5:6", a, b, a != 0 ? b : 6);
+            }
+        }
     }
 
     // "All values are ints, sums and products wrap"
@@ -361,6 +535,19 @@ public final class MeaningEdgesTest {
         Due.output("int v=1;void f(int p){p=5;v+=p;}int main(){int x=2;f(x);put(x);f(v);put(v);}", NOTHING, 2, 11);
     }
 
+    /** What is worked out ahead of a CALL waits for it, however many do, and whatever is told and left there. */
+    private static void valuesThatWait() {
+        Due.output("int f(int p){int x;int y[2];byte z[3];for(int i=0;i<3;i++){int w;put(w+x+y[1]+z[2]);w=5;if(i==p)return i;}}int main(){put(100+f(1)*10+f(9));int a[3];a[f(0)+1]=7+f(0);put(a[1]);}",
+                NOTHING, 0, 0, 0, 0, 0, 110, 0, 0, 7);
+        Due.output("int g(int a,int b,int c,int d){return a*1000+b*100+c*10+d;}int one(){int x;x=x+1;return x;}int main(){put(g(one(),2,one()+2,g(0,0,0,4)));}", NOTHING, 1234);
+        String f = "int f(int n){if(n==0)return 0;return n+(n+(n+(n+(n+(n+(n+f(n-1)))))));}int main(){put(f(get()));}";
+        for (int n : new int[] {1, 2, 140, 150, 398}) {
+            Due.output(f, new int[] {n}, 7L * n * (n + 1) / 2);
+        }
+        String open = "1|1^1&1==1<1<<1+1*(".repeat(36);
+        Due.output("int n;int f(){n++;if(n>450)return n;return " + open + "f()" + ")".repeat(36) + ";}int main(){put(f()!=0);put(n);}", NOTHING, 1, 451);
+    }
+
     // "for: START, then as while with E (none: true), SIMPLE behind each time (behind continue, too)"
 
     private static void forLoops() {
@@ -373,6 +560,32 @@ public final class MeaningEdgesTest {
         Due.output(t + "int main(){while(t(i)<2){i++;if(i==1)continue;put(70);}do{i--;if(i)continue;put(80);}while(t(i));}", NOTHING, 0, 1, 70, 2, 1, 80, 0);
         Due.output("int main(){for(int i=0;i<2;i++)for(int k=0;k<3;k++){if(k==1)continue;if(i)break;put(i*10+k);}}", NOTHING, 0, 2);
         Due.output("int main(){int n;do n++;while(0);put(n);while(0)n++;put(n);for(;0;)n++;put(n);}", NOTHING, 1, 1, 1);
+    }
+
+    /** break and continue are of the innermost loop, ahead of an inner one as behind it. */
+    private static void loopsInLoops() {
+        String[] loops = {"while(%n()<4){$}", "do{$}while(%n()<4);", "for(;%n()<4;){$}", "for(int t=0;t<1||%n()<4;t++){$}"};
+        for (int outer = 0; outer < loops.length; outer++) {
+            for (int inner = 0; inner < loops.length; inner++) {
+                for (int where = 0; where < 8; where++) {
+                    String leap = where % 2 == 0 ? "break;" : "continue;";
+                    String innerBody = "put(20+i);" + (where / 2 == 2 ? "if(i==2)" + leap : "") + "put(30+i);" + (where / 2 == 3 ? "if(i==3){put(99);" + leap + "}" : "");
+                    String outerBody = "put(o);" + (where / 2 == 0 ? "if(o==2)" + leap : "") + "i=0;" + loops[inner].replace("%", "i").replace("$", innerBody)
+                            + "put(40+o);" + (where / 2 == 1 ? "if(o==2)" + leap : "") + "put(50+o);";
+                    String text = "int o;int i;int on(){o++;return o;}int in(){i++;return i;}int main(){" + loops[outer].replace("%", "o").replace("$", outerBody) + "put(60);}";
+                    Oracle.Run due = new Oracle(text).new Run(2000, 1000, new java.util.ArrayList<>()).go();
+                    long[] numbers = new long[due.output.size()];
+                    for (int k = 0; k < numbers.length; k++) {
+                        numbers[k] = due.output.get(k);
+                    }
+                    Due.output(text, NOTHING, numbers);
+                }
+            }
+        }
+        Due.output("int main(){int i;while(1){i++;if(i==2)continue;if(i==5)break;while(1){if(i==1)break;put(i);break;}put(10+i);if(i==3)continue;put(20+i);}put(i);}",
+                NOTHING, 11, 21, 3, 13, 4, 14, 24, 5);
+        Due.output("int main(){for(int i=0;i<3;i++){if(i==0)continue;for(int k=0;k<3;k++){if(k==0)continue;if(k==2)break;put(i*10+k);}if(i==1)continue;put(50);}}", NOTHING, 11, 21, 50);
+        Due.output("int main(){int i;do{i++;do{if(i==2)break;put(i);}while(0);if(i==3)break;if(i==1)continue;put(20+i);}while(i<9);put(i);}", NOTHING, 1, 22, 3, 3);
     }
 
     // "return without E, and the end of a function's BLOCK: 0"

@@ -9,6 +9,8 @@ public final class RunEdgesTest {
     public static void main(String[] args) throws ReflectiveOperationException {
         readLeavesNothingOfARun();
         readEmptiesTheTape();
+        eachReadIsAsTheFirst();
+        twoFullTapes();
         lookOfFunctions();
         lookOfWords();
         giveUpTo500();
@@ -90,6 +92,57 @@ public final class RunEdgesTest {
             Due.be("there is no program", x.look(0, 0), -1);
             Due.be("read", Due.read(x, "void main(){}"), 0);
             Due.be("there is one", x.look(0, 0), 1);
+        }
+    }
+
+    // Promise 4: what has been read ahead of it does not count.
+
+    private static void eachReadIsAsTheFirst() {
+        String[] texts = {
+            "", "$", "int main(){}", "int a=5;int b[3]={1,2,3};byte c[6]={9,8,7,6,5,4};int main(){put(a+b[1]+c[5]);while(a)a--;}",
+            "int b;int c;int a;int main(){put(a|b|c);int d[3];put(d[0]|d[1]|d[2]);}", "byte b[9];int main(){put(b[0]);b[8]=get();put(b[8]);}",
+            "const int a=3;void f(int x,byte y[],int z[],int w){int q[a];}int main(){put(a);f(1,b(),c(),2);}", "void f(int a,int b){put(a-b);}void g(){f(7,2);}int main(){g();}",
+            "int main(){f();}void f(){halt(3);}", "int main(){return g(1);}int g(int f){return f+1;}", "int main()" + "{".repeat(40) + "}".repeat(40), "int main()" + "{".repeat(41),
+            "int main(){" + "if(1)".repeat(30), "int main(){put(" + "(".repeat(30), "int a[" + "1?".repeat(20), "int main(){int a;a=1;while(a){while(a){break", "int main(){while(1){while(1){x=1;}}}", "int main(){break;}",
+            "int main(){int a[1];a[1]=1;}", "int main(){main();}", "int x=y;", "int x[0];int main(){}", "int main(int a){}", "int f(int a,int a){}int main(){}", "void v(){}int main(){return v();}", "int main(){int a[201];}",
+            "int a[500];int b[500];int c[500];int d[500];int e;int main(){}", "int a[500];int b[500];int c[500];int d[500];int main(){a[0]=1;put(d[499]);}", "int g(){return 4;}void main(){put(g());}", "int a=1;int a=2;int main(){}"};
+        for (String first : texts) {
+            for (String second : texts) {
+                CompiledHouse x = new CompiledHouse();
+                CompiledHouse twin = new CompiledHouse();
+                Due.read(x, first);
+                x.give(1);
+                x.begin(300);
+                x.run(3);
+                Due.be("read of " + second + " behind " + first, Due.read(x, second), Due.read(twin, second));
+                Seen.same(second + " behind " + first, x, twin);
+                for (CompiledHouse house : new CompiledHouse[] {x, twin}) {
+                    house.give(6);
+                    house.begin(300);
+                    house.run(20);
+                }
+                Seen.same("a run of " + second + " behind " + first, x, twin);
+            }
+        }
+    }
+
+    /** Two texts as full as can be in the 512 calls of one object. */
+    private static void twoFullTapes() {
+        String[] words = {"a++;", "a=a+1;", "b[1]++;", "f();", "if(a)a++;else a=1;", "a=a?a+1:1;"};
+        for (String one : words) {
+            for (String other : words) {
+                CompiledHouse x = new CompiledHouse();
+                for (String statement : new String[] {one, other}) {
+                    String head = "int a;int b[2];void f(){a++;}int main(){";
+                    int times = (3999 - head.length()) / statement.length();
+                    String text = head + statement.repeat(times) + "}";
+                    text += " ".repeat(4000 - text.length());
+                    Due.be("read of " + statement, Due.read(x, text), 0);
+                    x.begin(8);
+                    Due.be("run of " + statement, x.run(1000), 3);
+                    Due.be("times of " + statement, x.global(0) + x.global(2), times);
+                }
+            }
         }
     }
 

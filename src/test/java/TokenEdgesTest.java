@@ -14,6 +14,7 @@ public final class TokenEdgesTest {
         notesPartTokens();
         namesGoOnWithLettersDigitsAnd_();
         namesHaveAtMost16();
+        differentNamesAreDifferent();
         namesAreNoWords();
         numbersHave1To10Digits();
         numbersAreAtMost4294967295();
@@ -179,6 +180,29 @@ public final class TokenEdgesTest {
         // All 16 count.
         Due.fine("int abcdefghijklmnoP;int abcdefghijklmnoQ;int Abcdefghijklmnop;int Bbcdefghijklmnop;" + MAIN);
         Due.fault("int abcdefghijklmnoP;int @abcdefghijklmnoP;" + MAIN, 5);
+    }
+
+    /** All NAMES of one and two, as many in one text as can be: none is told already. */
+    private static void differentNamesAreDifferent() {
+        String parts = "abcdefghijklmnopqrstuvwxyzABCDEFGHIJKLMNOPQRSTUVWXYZ_0123456789";
+        StringBuilder text = new StringBuilder(MAIN);
+        String last = "";
+        for (int first = 0; first < 53; first++) {
+            for (int second = -1; second < 63; second++) {
+                String name = parts.charAt(first) + (second < 0 ? "" : parts.substring(second, second + 1));
+                if (name.equals("if") || name.equals("do")) {
+                    continue;
+                }
+                if (text.length() > 3975) {
+                    Due.fine(text.toString());
+                    Due.fault(text + "int @" + last + ";", 5);
+                    text = new StringBuilder(MAIN);
+                }
+                text.append("int ").append(name).append(";");
+                last = name;
+            }
+        }
+        Due.fine(text.toString());
     }
 
     private static void namesAreNoWords() {
