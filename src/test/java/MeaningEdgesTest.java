@@ -28,6 +28,7 @@ public final class MeaningEdgesTest {
         madeAnew();
         theCallersOwn();
         valuesThatWait();
+        elseOfTheNearestIf();
         forLoops();
         loopsInLoops();
         results();
@@ -546,6 +547,24 @@ public final class MeaningEdgesTest {
         }
         String open = "1|1^1&1==1<1<<1+1*(".repeat(36);
         Due.output("int n;int f(){n++;if(n>450)return n;return " + open + "f()" + ")".repeat(36) + ";}int main(){put(f()!=0);put(n);}", NOTHING, 1, 451);
+    }
+
+    // "(an else is of the nearest if)"
+
+    private static void elseOfTheNearestIf() {
+        for (int a = 0; a <= 1; a++) {
+            for (int b = 0; b <= 1; b++) {
+                String tail = "put(4);}";
+                String head = "int main(){int a=get();int b=get();";
+                int[] input = {a, b};
+                Due.output(head + "if(a)if(b)put(1);else put(2);" + tail, input, a == 0 ? new long[] {4} : new long[] {b == 1 ? 1 : 2, 4});
+                Due.output(head + "if(a){if(b)put(1);}else put(2);" + tail, input, a == 0 ? new long[] {2, 4} : b == 1 ? new long[] {1, 4} : new long[] {4});
+                Due.output(head + "if(a)if(b)put(1);else put(2);else put(3);" + tail, input, a == 0 ? 3 : b == 1 ? 1 : 2, 4);
+                Due.output(head + "if(a)put(1);else if(b)put(2);else put(3);" + tail, input, a == 1 ? 1 : b == 1 ? 2 : 3, 4);
+                Due.output(head + "if(a)while(b){if(0);else b=0;put(5);}else put(6);" + tail, input, a == 0 ? new long[] {6, 4} : b == 1 ? new long[] {5, 4} : new long[] {4});
+                Due.output(head + "if(a)for(;b;b--)if(b)put(5);else put(6);" + tail, input, a == 1 && b == 1 ? new long[] {5, 4} : new long[] {4});
+            }
+        }
     }
 
     // "for: START, then as while with E (none: true), SIMPLE behind each time (behind continue, too)"

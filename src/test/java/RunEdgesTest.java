@@ -11,6 +11,8 @@ public final class RunEdgesTest {
         readEmptiesTheTape();
         eachReadIsAsTheFirst();
         twoFullTapes();
+        nothingIsLeftOfATextWithAFault();
+        roomIsUsedAgain();
         lookOfFunctions();
         lookOfWords();
         giveUpTo500();
@@ -33,6 +35,7 @@ public final class RunEdgesTest {
         outputKeeps2000();
         outputCountStaysAtTheGreatest();
         worldOfEachKind();
+        placesUpTo3999();
         globalsAsAtFirstAndByNow();
         globalOfNoWord();
         theTapeIsNotTheProgram();
@@ -143,6 +146,79 @@ public final class RunEdgesTest {
                     Due.be("times of " + statement, x.global(0) + x.global(2), times);
                 }
             }
+        }
+    }
+
+    // Promise 4: "with a FAULT .. there is no program"
+
+    private static void nothingIsLeftOfATextWithAFault() {
+        String told = "int a=5;byte b[4]={1,2,3,4};int c[3]={7,8,9};int f(int p){return p;}int main(){put(a);}";
+        for (String fault : new String[] {"$", "x", "{", "int a;", "int y=x;", "int z[0];", "void g(){break;}", "int h(){return;}", "int h(){f();}"}) {
+            CompiledHouse x = new CompiledHouse();
+            Due.be("read of " + fault, Due.read(x, told + fault) == 0, false);
+            for (int i = 0; i < 9; i++) {
+                Due.be("word " + i, x.global(i), 0);
+                for (int what = 0; what < 6; what++) {
+                    Due.be("look " + what, x.look(what, i), -1);
+                }
+            }
+            Due.be("give", x.give(1), -1);
+            Due.be("begin", x.begin(100), false);
+            Due.be("run", x.run(1), -1);
+            world("behind a fault", x, 0, 0, 0, 0, 0, -1, 0, 0);
+        }
+    }
+
+    /** What a full tape tells does not take room from the next one, nor do many values that an end leaves. */
+    private static void roomIsUsedAgain() {
+        StringBuilder ints = new StringBuilder();
+        StringBuilder formals = new StringBuilder("int f(int aa");
+        for (int k = 0; ints.length() < 3900; k++) {
+            String name = "" + (char) ('a' + k / 26) + (char) ('A' + k % 26);
+            ints.append("int ").append(name).append(";");
+            formals.append(formals.length() < 3950 ? ",int " + name : "");
+        }
+        String[] texts = {ints + "int zz;int main(){zz=1;put(zz);}", formals + "){}int main(){}", "void f(int a){put(a);}void g(byte b[],int c){put(b[c]);}byte z[2]={3,4};int main(){f(1);g(z,1);}"};
+        int[] due = {0, 0, 0};
+        for (int k = 0; k < 3; k++) {
+            due[k] = Due.read(new CompiledHouse(), texts[k]);
+        }
+        Due.be("a fifth FORMAL", due[1] % 16, 11);
+        Due.be("no fault", due[0] | due[2], 0);
+        for (int first = 0; first < 3; first++) {
+            for (int second = 0; second < 3; second++) {
+                CompiledHouse x = new CompiledHouse();
+                Due.be("read", Due.read(x, texts[first]), due[first]);
+                Due.be("read", Due.read(x, texts[second]), due[second]);
+                if (due[second] == 0) {
+                    x.begin(50);
+                    Due.be("run", x.run(9), 3);
+                    Due.be("output", x.output(0), 1);
+                }
+            }
+        }
+        StringBuilder four = new StringBuilder();
+        for (int k = 0; k < 39; k++) {
+            four.append("void f").append(k).append("(int a,int b,int c,int d){}");
+        }
+        CompiledHouse x = new CompiledHouse();
+        Due.be("read", Due.read(x, texts[1]), due[1]);
+        Due.be("read", Due.read(x, four + "int main(){f38(1,2,3,4);f0(1,2,3,4);f20(1,2,3,4);}"), 0);
+        String open = "1|1^1&1==1<1<<1+1*(".repeat(36);
+        x = Due.house("int n;int f(){n++;if(n>450)halt(n);return " + open + "f()" + ")".repeat(36) + ";}int main(){put(8-f());}");
+        for (int k = 0; k < 8; k++) {
+            x.begin(2000);
+            Due.be("run", x.run(1000), 4);
+            Due.be("value", x.world(4), 451);
+            Due.be("depth", x.world(6), 4 + 451 * 4);
+        }
+        x = Due.house("int n;int f(){n++;if(n>450)return n;return " + open + "f()" + ")".repeat(36) + ";}int main(){put(5+(f()!=0));}");
+        for (int k = 0; k < 8; k++) {
+            x.begin(2000);
+            Due.be("a run that stops on its way", x.run(400), 1);
+            x.begin(2000);
+            Due.be("run", x.run(1000), 3);
+            Due.be("output", x.output(0), 6);
         }
     }
 
@@ -698,6 +774,20 @@ public final class RunEdgesTest {
         world("PAUSED in main", x, 1, 0, 1, 0, 0, -1, 4, 21);
         Due.be("run", x.run(1), 2);
         world("WAITS in f", x, 2, 1, 2, 0, 0, -1, 11, 21);
+    }
+
+    /** The place of INDEX and of STACK, as far behind in the text as can be. */
+    private static void placesUpTo3999() {
+        String[] marked = {"int a[1];int main(){a[0]=1;%put(a@[1]);}", "int a[1];int main(){%a@[-1]++;}", "void f(){int a[9];}int main(){%@f();}", "int a[9];%int @main(){int z;}"};
+        for (int k = 0; k < marked.length; k++) {
+            for (int length = 3998; length <= 4000; length++) {
+                String text = marked[k].replace("%", " ".repeat(length - marked[k].length() + 2));
+                Due.be("length", text.length(), length + 1);
+                CompiledHouse x = begun(text.replace("@", ""), 4);
+                Due.be("run of " + marked[k], x.run(1), k < 2 ? 5 : 6);
+                Due.be("place of " + marked[k], x.world(5), text.indexOf('@'));
+            }
+        }
     }
 
     // Promise 11: "as the run has left it by now (ahead of a run, or without one, as at first)"

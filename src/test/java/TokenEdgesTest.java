@@ -1,3 +1,6 @@
+import java.util.ArrayList;
+import java.util.List;
+
 /** The edges of Terms 1, first part: what parts tokens, and where NAMES, WORDS, NUMBERS and SIGNS end. */
 public final class TokenEdgesTest {
     private static final String MAIN = "int main(){}";
@@ -21,6 +24,7 @@ public final class TokenEdgesTest {
         hexadecimalsHave1To8Digits();
         nothingRightBehindANumber();
         signsAreAsLongAsCanBe();
+        signsThatStandAlone();
         signsOfAllKindsAgainstTheOracle();
         placesOfTokens();
         theFullTape();
@@ -182,27 +186,52 @@ public final class TokenEdgesTest {
         Due.fault("int abcdefghijklmnoP;int @abcdefghijklmnoP;" + MAIN, 5);
     }
 
-    /** All NAMES of one and two, as many in one text as can be: none is told already. */
+    /** As many NAMES in one text as can be: none is told already, and each one that is told again is. */
     private static void differentNamesAreDifferent() {
         String parts = "abcdefghijklmnopqrstuvwxyzABCDEFGHIJKLMNOPQRSTUVWXYZ_0123456789";
-        StringBuilder text = new StringBuilder(MAIN);
-        String last = "";
+        List<String> names = new ArrayList<>();
         for (int first = 0; first < 53; first++) {
-            for (int second = -1; second < 63; second++) {
-                String name = parts.charAt(first) + (second < 0 ? "" : parts.substring(second, second + 1));
-                if (name.equals("if") || name.equals("do")) {
-                    continue;
+            names.add(parts.substring(first, first + 1));
+            for (int second = 0; second < 63; second++) {
+                String name = "" + parts.charAt(first) + parts.charAt(second);
+                if (!name.equals("if") && !name.equals("do")) {
+                    names.add(name);
                 }
-                if (text.length() > 3975) {
-                    Due.fine(text.toString());
-                    Due.fault(text + "int @" + last + ";", 5);
-                    text = new StringBuilder(MAIN);
-                }
-                text.append("int ").append(name).append(";");
-                last = name;
             }
         }
-        Due.fine(text.toString());
+        allDifferent(names);
+        // Long ones that differ in one place alone.
+        for (int at = 0; at < 16; at++) {
+            names.clear();
+            for (int tail = 0; tail < 6; tail++) {
+                for (int c = 0; c < (at == 0 ? 53 : 63); c++) {
+                    char[] name = ("aLong_Name_" + tail * 7919 + "zzzzzzzzzz").substring(0, 16).toCharArray();
+                    name[at] = parts.charAt(c);
+                    String text = new String(name);
+                    if (!names.contains(text)) {
+                        names.add(text);
+                    }
+                }
+            }
+            allDifferent(names);
+        }
+    }
+
+    private static void allDifferent(List<String> names) {
+        StringBuilder text = new StringBuilder(MAIN);
+        List<String> told = new ArrayList<>();
+        for (String name : names) {
+            text.append("int ").append(name).append(";");
+            told.add(name);
+            if (text.length() > 3950 || name.equals(names.get(names.size() - 1))) {
+                Due.fine(text.toString());
+                for (int k = 0; k < told.size(); k += 5) {
+                    Due.fault(text + "int @" + told.get(k) + ";", 5);
+                }
+                text = new StringBuilder(MAIN);
+                told.clear();
+            }
+        }
     }
 
     private static void namesAreNoWords() {
@@ -345,6 +374,29 @@ public final class TokenEdgesTest {
                 NOTHING, 2, 16, 4, 2, 4, 1, 0, 1, 6);
         Due.output("int main(){int a=5;a++;put(a);a--;a--;put(a);a+=10;put(a);a-=4;put(a);a*=3;put(a);a/=4;put(a);a%=5;put(a);a|=8;put(a);a&=12;put(a);a^=1;put(a);put(a!=9);put(a==9);}",
                 NOTHING, 6, 4, 14, 10, 30, 7, 2, 10, 8, 9, 0, 1);
+    }
+
+    /** Signs that are no part of a longer one, twice and with = behind them. */
+    private static void signsThatStandAlone() {
+        String open = "int a;int b;int c[2];int f(int p){}int main(){";
+        String[] wrong = {
+            "a=b?a:@:b;", "a=c[@[1]];", "f(@,,1);", "f(1,@,2);", "f(@=1);", "a=(@=1);", "c[@=1]=1;", "a=c[1]@=1;", "for(;@=1;);", "for(@=1;;);", "a=b?a:@=b;", "a=b?@=a:b;", "a=(b)@=a;", "{}@=1;", "{@=1;}", "a=~@=b;", "a=1@,b;",
+            "f(1)@=1;", "f(1,@=2);", ";@=1;", "a=b@];", "a=(b@];", "a=c[b@);", "a=c[1]@];", "a=(b)@);", "{}}@}", "c@]=1;", "a@)=1;", "a=b?a?@:b;"};
+        for (String statement : wrong) {
+            Due.fault(open + statement + "}", 2);
+        }
+        Due.fault("int a[1]={@=1};", 2);
+        Due.fault("int a[1]={@{1}};", 2);
+        Due.fault("int a[1]={1,@,2};", 2);
+        Due.fault("int a[@[1]];", 2);
+        Due.fault("int a[1]@];", 2);
+        Due.fault("int a[@=1];", 2);
+        Due.fault("int a;@;", 2);
+        Due.fault("int f(@(){}", 2);
+        Due.fault("int f()@){}", 2);
+        Due.fault("int f(@=){}", 2);
+        Due.fault("int f(int a,@,int b){}", 2);
+        Due.fine("int a;int c[2];int f(int p){{{}}{;;;}a=((1));a=c[c[1]];c[c[0]]=((2));f(((1)));f(f((1)));}int main(){{{{}}}}");
     }
 
     /** All rows of up to three bytes of signs, and longer ones of < > = alone. */
